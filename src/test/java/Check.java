@@ -1,0 +1,34 @@
+/** Counts the answers that are not as due and tells each of them. */
+final class Check {
+    private final String title;
+    private int asked;
+    private int wrong;
+
+    Check(String title) {
+        this.title = title;
+    }
+
+    void due(String call, long got, long want) {
+        asked++;
+        if (got != want) {
+            wrong++;
+            System.out.println(title + ": " + call + " answered " + got + ", due is " + want);
+        }
+    }
+
+    void due(String call, boolean got, boolean want) {
+        due(call, got ? 1 : 0, want ? 1 : 0);
+    }
+
+    int wrong() {
+        return wrong;
+    }
+
+    /** Ends the program, with exit code 1 if an answer was wrong. */
+    void end() {
+        System.out.println(title + ": " + asked + " answers, " + wrong + " of them wrong");
+        if (wrong != 0) {
+            System.exit(1);
+        }
+    }
+}
