@@ -38,6 +38,7 @@ public final class PromisesTest {
         after();
         event();
         linked();
+        authsOfEachKind();
         CHECK.end();
     }
 
@@ -721,5 +722,25 @@ public final class PromisesTest {
         CHECK.due("linked(2, -63)", room.linked(2, -63), 0);
         CHECK.due("linked(MAX, 1)", room.linked(Integer.MAX_VALUE, 1), 0);
         CHECK.due("linked(MIN, MIN)", room.linked(Integer.MIN_VALUE, Integer.MIN_VALUE), 0);
+    }
+
+    private static void authsOfEachKind() {
+        MeshRoom room = Rooms.withMembers(2);
+        CHECK.due("levels", Rooms.told(room, 0, Rooms.LEVELS, 1, 2), 6);
+        // By kind, the events 1 .. 6 that user 1 needs for what is about user 2.
+        int[][] auths = {
+            {1, 0, 1, 1, 1, 1}, {1, 0, 1, 1, 1, 1}, {1, 0, 0, 1, 1, 1}, {1, 0, 0, 1, 1, 1},
+            {1, 0, 0, 1, 0, 1}, {1, 0, 0, 1, 0, 1}, {1, 0, 0, 1, 0, 1},
+        };
+        int[] good = {0, 0, 1, 1, 1, 1, 1};
+        for (int kind = Rooms.JOIN; kind <= Rooms.TEXT; kind++) {
+            int made = room.branch(1, kind, 2, 0, 6);
+            CHECK.due("branch of kind " + kind, made, 6 + kind);
+            for (int e = 1; e <= 6; e++) {
+                CHECK.due("linked(" + made + ", " + e + ") as an auth",
+                        room.linked(made, e) >> 1 & 1, auths[kind - 1][e - 1]);
+            }
+            CHECK.due("event(" + made + ", 8)", room.event(made, 8), good[kind - 1]);
+        }
     }
 }

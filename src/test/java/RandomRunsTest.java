@@ -103,7 +103,8 @@ public final class RandomRunsTest {
     private void make() {
         int u = some(6);
         int kind = random.nextInt(wildness) == 0 ? some(9) - 1 : 1 + random.nextInt(7);
-        int target = kind == 1 || (kind == 3 && random.nextBoolean()) ? u : some(6);
+        boolean ofOneself = kind == 1 && random.nextInt(8) != 0 || kind == 3 && random.nextBoolean();
+        int target = ofOneself ? u : some(6);
         int value = kind == 5 ? some(4) : kind == 6 ? some(2) : random.nextInt();
         if (random.nextInt(3) != 0) {
             act(u, kind, target, value);

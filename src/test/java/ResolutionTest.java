@@ -11,7 +11,10 @@ public final class ResolutionTest {
         placeOffTheMainline();
         agreedKeysAreRestored();
         authsFillEmptyKeys();
-        leaveByAnotherIsHeavy();
+        wholesBringMissingSteps();
+        heavyComesBeforeLight(Rooms.LEAVE);
+        heavyComesBeforeLight(Rooms.BAN);
+        ruleIsHeavy();
         ownLeaveIsNotHeavy();
         firstJoinAgain();
         chainOfHeavyIsTriedWithIt();
@@ -110,15 +113,42 @@ public final class ResolutionTest {
         CHECK.due("auths fill: member(0, 4)", room.member(0, 4), 9);
     }
 
-    private static void leaveByAnotherIsHeavy() {
+    /** One side is two LEVELS events ahead: the first of them is in no state, and yet is tried. */
+    private static void wholesBringMissingSteps() {
+        MeshRoom room = Rooms.withMembers(3);
+        CHECK.due("levels that all know", Rooms.told(room, 0, Rooms.LEVELS, 2, 1), 7);
+        CHECK.due("a leader", room.act(0, Rooms.LEVELS, 1, 2), 8);
+        CHECK.due("as server 1 hears", room.deliver(0), 1);
+        Rooms.loseAll(room);
+        CHECK.due("levels of that leader", room.act(1, Rooms.LEVELS, 3, 1), 9);
+        CHECK.due("a text at server 2", room.act(2, Rooms.TEXT, 0, 0), 10);
+        Rooms.deliverAll(room);
+        CHECK.due("ends(2)", room.ends(2), 2);
+        everywhere("wholes", room, 1, 9);
+    }
+
+    /** What one does who was sent away or banned meanwhile fails, however early it says it is. */
+    private static void heavyComesBeforeLight(int kind) {
         MeshRoom room = Rooms.withMembers(4);
         room.tick(30);
         room.offset(1, -20);
-        CHECK.due("user 0 sends user 1 away", room.act(0, Rooms.LEAVE, 1, 0), 8);
+        CHECK.due("user 0 is rid of user 1", room.act(0, kind, 1, 0), 8);
         CHECK.due("user 1 invites", room.act(1, Rooms.INVITE, 5, 0), 9);
         Rooms.deliverAll(room);
-        everywhere("sent away", room, 4, 8);
-        everywhere("sent away", room, 8, 0);
+        everywhere("kind " + kind, room, 4, 8);
+        everywhere("kind " + kind, room, 8, 0);
+    }
+
+    private static void ruleIsHeavy() {
+        MeshRoom room = Rooms.withMembers(4);
+        room.tick(30);
+        room.offset(2, -20);
+        CHECK.due("user 0 closes the room", room.act(0, Rooms.RULE, 0, 0), 8);
+        CHECK.due("user 5 joins, earlier", room.act(5, Rooms.JOIN, 5, 0), 9);
+        Rooms.deliverAll(room);
+        everywhere("closed", room, 2, 8);
+        everywhere("closed", room, 8, 0);
+        CHECK.due("status(0, 9)", room.status(0, 9), 2);
     }
 
     private static void ownLeaveIsNotHeavy() {
