@@ -658,19 +658,20 @@ public final class MeshRoom {
             return heavy;
         }
 
+        // Events come by their numbers and give way only to a better one, so ties go to the least.
         private Event nextHeavy(long left) {
             Event best = null;
             for (int n = 1; n <= history.made; n++) {
                 Event event = history.pick(n, left);
                 if (event != null && (event.chain & left) == 0L
-                        && (best == null || isHeavier(event, best))) {
+                        && (best == null || isOfMoreWeight(event, best))) {
                     best = event;
                 }
             }
             return best;
         }
 
-        private static boolean isHeavier(Event event, Event best) {
+        private static boolean isOfMoreWeight(Event event, Event best) {
             int level = event.senderLevel();
             int bestLevel = best.senderLevel();
             return level > bestLevel || level == bestLevel && event.time < best.time;
