@@ -26,6 +26,7 @@ public final class PromisesTest {
         deliverInOrder();
         deliverOutOfOrder();
         deliverAsksForAllThatLack();
+        deliverAsksForWhatIsPending();
         deliverFreesItsPlace();
         deliverSettlesAtMostOnce();
         lose();
@@ -465,12 +466,34 @@ public final class PromisesTest {
         CHECK.due("event 5 to server 2", room.deliver(2), 1);
         CHECK.due("status(2, 5)", room.status(2, 5), 2);
         CHECK.due("status(2, 6) still", room.status(2, 6), 1);
+        CHECK.due("ends(2): what waits follows nothing", room.ends(2), 1);
+        CHECK.due("current(2, 3)", room.current(2, 3), 2);
         CHECK.due("offer again", room.offer(0, 2), 1);
         CHECK.due("event 6 again", room.deliver(2), 1);
         CHECK.due("asks for 4 alone", room.flying(), 3);
         CHECK.due("want 4 again", room.message(2), 4 + 512 + 2048);
         Rooms.deliverAll(room);
         CHECK.due("status(2, 6) at last", room.status(2, 6), 2);
+    }
+
+    // Terms: "for each prev that is neither held nor refused there (lacking or pending)"
+    private static void deliverAsksForWhatIsPending() {
+        MeshRoom room = Rooms.withTexts(5);
+        CHECK.due("event 4 to server 1", room.deliver(2), 1);
+        CHECK.due("status(1, 4)", room.status(1, 4), 1);
+        CHECK.due("want 3, which lacks", room.message(5), 3 + 256 + 2048);
+        CHECK.due("event 5 to server 1", room.deliver(3), 1);
+        CHECK.due("status(1, 5)", room.status(1, 5), 1);
+        CHECK.due("want 4, which is pending", room.message(5), 4 + 256 + 2048);
+        CHECK.due("flying()", room.flying(), 6);
+        CHECK.due("want 4 is answered", room.deliver(5), 2);
+        CHECK.due("event 4 to server 1 again", room.deliver(5), 1);
+        CHECK.due("status(1, 4) still", room.status(1, 4), 1);
+        CHECK.due("want 3 again", room.message(5), 3 + 256 + 2048);
+        CHECK.due("event 3 to server 1", room.deliver(0), 1);
+        for (int e = 3; e <= 5; e++) {
+            CHECK.due("status(1, " + e + ") at last", room.status(1, e), 2);
+        }
     }
 
     private static void deliverFreesItsPlace() {

@@ -8,8 +8,13 @@ public final class ResolutionTest {
         earlierIsTriedFirst(0, 12);
         earlierIsTriedFirst(9, 12);
         olderPlaceIsTriedFirst();
+        placesFarBack();
         placeOffTheMainline();
+        agreedEventsStandFirst();
         agreedKeysAreRestored();
+        agreedKeysAreRestoredLast();
+        firstStateHasNoSay();
+        whatAllHaveIsNotTried();
         authsFillEmptyKeys();
         wholesBringMissingSteps();
         heavyComesBeforeLight(Rooms.LEAVE);
@@ -68,6 +73,22 @@ public final class ResolutionTest {
         everywhere("older place", room, 8, 10);
     }
 
+    /** An invite of place 2 is tried before one of place 1, though it says that it is later. */
+    private static void placesFarBack() {
+        MeshRoom room = Rooms.withMembers(4);
+        CHECK.due("oldest levels", Rooms.told(room, 0, Rooms.LEVELS, 1, 2), 8);
+        room.offset(1, 20);
+        CHECK.due("later invite under the oldest", room.act(1, Rooms.INVITE, 5, 0), 9);
+        CHECK.due("older levels", room.act(0, Rooms.LEVELS, 3, 1), 10);
+        CHECK.due("which server 2 hears of", room.deliver(3), 1);
+        CHECK.due("invite under the older", room.act(2, Rooms.INVITE, 5, 0), 11);
+        CHECK.due("newest levels", room.act(0, Rooms.LEVELS, 3, 0), 12);
+        Rooms.deliverAll(room);
+        CHECK.due("ends(1)", room.ends(1), 3);
+        everywhere("far back", room, 1, 12);
+        everywhere("far back", room, 8, 11);
+    }
+
     private static void placeOffTheMainline() {
         MeshRoom room = Rooms.withMembers(4);
         Rooms.told(room, 0, Rooms.LEVELS, 1, 2);
@@ -84,6 +105,23 @@ public final class ResolutionTest {
         CHECK.due("off the mainline: member(0, 3)", room.member(0, 3), 1);
     }
 
+    /** User 1 lost its level by agreed LEVELS, so its RULE of before, tried last, fails by them. */
+    private static void agreedEventsStandFirst() {
+        MeshRoom room = Rooms.withMembers(2);
+        CHECK.due("level 2 for user 1", Rooms.told(room, 0, Rooms.LEVELS, 1, 2), 6);
+        CHECK.due("rule of user 1", Rooms.told(room, 1, Rooms.RULE, 0, 0), 7);
+        CHECK.due("level 0 for user 1", Rooms.told(room, 0, Rooms.LEVELS, 1, 0), 8);
+        // Its chain has the LEVELS on both sides, so that they are not tried again.
+        CHECK.due("an invite", Rooms.told(room, 0, Rooms.INVITE, 5, 0), 9);
+        CHECK.due("rule of user 0", room.act(0, Rooms.RULE, 0, 1), 10);
+        CHECK.due("a text at server 2", room.act(2, Rooms.TEXT, 0, 0), 11);
+        Rooms.deliverAll(room);
+        CHECK.due("ends(1)", room.ends(1), 2);
+        CHECK.due("a text upon both", room.act(1, Rooms.TEXT, 0, 0), 12);
+        CHECK.due("agreed first: after(12, 1)", room.after(12, 1), 8);
+        CHECK.due("agreed first: after(12, 2)", room.after(12, 2), 10);
+    }
+
     /** An older JOIN comes up for trial through the chain of an INVITE, but its key is agreed. */
     private static void agreedKeysAreRestored() {
         MeshRoom room = Rooms.withMembers(0);
@@ -98,6 +136,61 @@ public final class ResolutionTest {
         CHECK.due("ends(1)", room.ends(1), 2);
         CHECK.due("agreed: current(1, 4)", room.current(1, 4), 6);
         CHECK.due("agreed: current(1, 8)", room.current(1, 8), 5);
+    }
+
+    /**
+     * The RULE of user 1 comes up for trial through the chain of its INVITE. It would be tried after
+     * that of user 0, were the latter tried too; but that one is agreed, and so is not even tried.
+     */
+    private static void agreedKeysAreRestoredLast() {
+        MeshRoom room = Rooms.withMembers(1);
+        CHECK.due("level 2 for user 1", Rooms.told(room, 0, Rooms.LEVELS, 1, 2), 5);
+        room.offset(1, 20);
+        CHECK.due("levels of user 1", room.act(1, Rooms.LEVELS, 4, 1), 6);
+        CHECK.due("which server 0 hears of", room.deliver(0), 1);
+        room.offset(1, 10);
+        CHECK.due("rule of user 1", room.branch(1, Rooms.RULE, 0, 0, 5), 7);
+        CHECK.due("invite of user 1", room.branch(1, Rooms.INVITE, 5, 0, 7), 8);
+        CHECK.due("rule of user 0", room.act(0, Rooms.RULE, 0, 1), 9);
+        CHECK.due("levels of user 0", room.act(0, Rooms.LEVELS, 3, 1), 10);
+        Rooms.deliverAll(room);
+        CHECK.due("text upon both", room.act(0, Rooms.TEXT, 0, 0), 11);
+        // The rule of user 0 waits for the levels of user 1, which are later than the rule of user 1.
+        CHECK.due("after(11, 1)", room.after(11, 1), 10);
+        CHECK.due("after(11, 2)", room.after(11, 2), 9);
+        CHECK.due("after(11, 8)", room.after(11, 8), 8);
+        CHECK.due("text without the invite", room.branch(0, Rooms.TEXT, 0, 0, 10), 12);
+        CHECK.due("ends(0)", room.ends(0), 2);
+        CHECK.due("text upon both again", room.act(0, Rooms.TEXT, 0, 0), 13);
+        CHECK.due("agreed last: after(13, 1)", room.after(13, 1), 10);
+        CHECK.due("agreed last: after(13, 2)", room.after(13, 2), 9);
+        CHECK.due("agreed last: after(13, 8)", room.after(13, 8), 8);
+    }
+
+    /** The INVITE is in the first of the states, but only what is agreed stands without a trial. */
+    private static void firstStateHasNoSay() {
+        MeshRoom room = Rooms.withMembers(4);
+        CHECK.due("user 1 invites", room.act(1, Rooms.INVITE, 5, 0), 8);
+        CHECK.due("user 0 bans user 1", room.act(0, Rooms.BAN, 1, 0), 9);
+        Rooms.deliverAll(room);
+        everywhere("first state", room, 4, 9);
+        everywhere("first state", room, 8, 0);
+    }
+
+    /** A RULE that both sides had, but says that it is later than the one that followed it, stays out. */
+    private static void whatAllHaveIsNotTried() {
+        MeshRoom room = new MeshRoom();
+        room.tick(10);
+        CHECK.due("closed", Rooms.told(room, 0, Rooms.RULE, 0, 0), 3);
+        CHECK.due("an invite, with it in its chain", Rooms.told(room, 0, Rooms.INVITE, 1, 0), 4);
+        room.offset(0, -5);
+        CHECK.due("open", Rooms.told(room, 0, Rooms.RULE, 0, 1), 5);
+        CHECK.due("user 2 joins", room.act(2, Rooms.JOIN, 2, 0), 6);
+        CHECK.due("a text at server 0", room.act(0, Rooms.TEXT, 0, 0), 7);
+        Rooms.deliverAll(room);
+        CHECK.due("ends(1)", room.ends(1), 2);
+        everywhere("not tried", room, 2, 5);
+        everywhere("not tried", room, 5, 6);
     }
 
     /** The LEVELS event that both sides build on is no longer in either state. */

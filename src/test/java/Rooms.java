@@ -39,4 +39,34 @@ final class Rooms {
         }
         return room;
     }
+
+    /** User 0 writes the events 3 .. last, with their numbers as values; as no other server knows. */
+    static MeshRoom withTexts(int last) {
+        MeshRoom room = new MeshRoom();
+        for (int e = 3; e <= last; e++) {
+            room.act(0, TEXT, 0, e);
+        }
+        return room;
+    }
+
+    /** So many messages fly, of texts of user 0 that all have the prev 2, so that none waits for another. */
+    static MeshRoom withFlying(int count) {
+        MeshRoom room = new MeshRoom();
+        for (int sent = 0; sent < count; sent += 2) {
+            room.branch(0, TEXT, 0, 0, 2);
+        }
+        if (count % 2 == 1) {
+            room.lose(count);
+        }
+        return room;
+    }
+
+    /** What message(k) is due to answer there. */
+    static int[] codesOfFlying(int count) {
+        int[] codes = new int[count];
+        for (int k = 0; k < count; k++) {
+            codes[k] = 3 + k / 2 + 64 * (1 + k % 2) + 1024;
+        }
+        return codes;
+    }
 }
