@@ -26,17 +26,29 @@ public final class RandomRunsTest {
         int forks = 0;
         int overruled = 0;
         int offMainline = 0;
+        int badPrevs = 0;
+        int earlyWants = 0;
+        int splitVerdicts = 0;
         for (int run = 0; run < RUNS && check.wrong() < 20; run++) {
             RandomRunsTest test = new RandomRunsTest(check, run);
             test.play();
             forks += test.reference.forks;
             overruled += test.reference.overruled;
             offMainline += test.reference.offMainline;
+            badPrevs += test.reference.badPrevs;
+            earlyWants += test.reference.earlyWants;
+            splitVerdicts += test.reference.splitVerdicts;
         }
         // Runs that meet none of the hard cases would prove little.
         check.due("forks were met", forks > 10000, true);
         check.due("agreed keys were overruled", overruled > 100, true);
         check.due("places off the mainline were met", offMainline > 100, true);
+        // A prev was held where the event was made, so it is good, and good is the same for all servers.
+        check.due("events with a prev that some server would refuse", badPrevs, 0);
+        // A server sends only events that it has looked at, and so it has looked at their prevs too.
+        check.due("WANTs for an event that their receiver has not looked at", earlyWants, 0);
+        // The auths are the events of the state before under every key that the event is judged by.
+        check.due("events that only one of their auths and the state before allows", splitVerdicts, 0);
         check.end();
     }
 

@@ -60,6 +60,11 @@ final class ReferenceRoom {
     int overruled = 0;
     int offMainline = 0;
 
+    /** How often something was met that should be out of reach, so that a test can tell if it is not. */
+    int badPrevs = 0;
+    int earlyWants = 0;
+    int splitVerdicts = 0;
+
     ReferenceRoom() {
         events.add(new Event(1, 0, 0, 0, 0, 0, set(), set()));
         events.add(new Event(2, 1, 0, 0, 0, 0, set(1), set(1)));
@@ -352,7 +357,15 @@ final class ReferenceRoom {
 
     private int make(Event e) {
         Map<Integer, Integer> before = before(e);
-        boolean good = allowed(e, authState(e)) && allowed(e, before);
+        boolean byAuths = allowed(e, authState(e));
+        boolean byBefore = allowed(e, before);
+        boolean good = byAuths && byBefore;
+        if (byAuths != byBefore) {
+            splitVerdicts++;
+        }
+        if (!e.prevs.stream().allMatch(goods::get)) {
+            badPrevs++;
+        }
         Map<Integer, Integer> after = new TreeMap<>(before);
         if (good && e.key() != null) {
             after.put(e.key(), e.number);
@@ -419,6 +432,8 @@ final class ReferenceRoom {
         if (m.kind == 2) {
             if (known(m.to, m.event)) {
                 send(1, m.event, m.to, m.from);
+            } else {
+                earlyWants++;
             }
         } else if (!m.spoiled && !known(m.to, m.event)) {
             List<Integer> missing = new ArrayList<>(get(m.event).prevs);
